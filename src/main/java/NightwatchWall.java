@@ -290,11 +290,11 @@ public final class NightwatchWall {
             case 3:
                 return foundAt(intruder);
             case 4:
-                return findersOf(intruder);
+                return findersOf(intruder, foundAt(intruder));
             case 5:
-                return arrival(responder(intruder), intruder, foundAt(intruder));
+                return firstArrival(intruder, foundAt(intruder));
             case 6:
-                return responder(intruder);
+                return responder(intruder, foundAt(intruder));
             case 7:
                 return intruders.stepsOf(intruder);
             default:
@@ -650,27 +650,34 @@ public final class NightwatchWall {
         return many;
     }
 
-    private int findersOf(int intruder) {
-        int found = foundAt(intruder);
+    private int findersOf(int intruder, int found) {
         return found == NONE ? 0 : guardsWhoSee(intruders.cellAt(intruder, found), found);
     }
 
-    /** The GUARD whose RESPONSE is the first one. */
-    private int responder(int intruder) {
-        int found = foundAt(intruder);
-        int best = NONE;
-        int soonest = MINUTES;
+    /** The MINUTE of the first RESPONSE. */
+    private int firstArrival(int intruder, int found) {
+        int soonest = NONE;
         for (int guard = 0; guard < guards.count(); guard++) {
             int minute = arrival(guard, intruder, found);
-            if (minute != NONE && minute < soonest) {
-                best = guard;
+            if (minute != NONE && (soonest == NONE || minute < soonest)) {
                 soonest = minute;
             }
         }
-        return best;
+        return soonest;
     }
 
-    /** When the GUARD is there; NONE also for no GUARD, one who is not on DUTY, or none FOUND. */
+    /** The GUARD of the first RESPONSE. */
+    private int responder(int intruder, int found) {
+        int soonest = firstArrival(intruder, found);
+        for (int guard = 0; guard < guards.count(); guard++) {
+            if (soonest != NONE && arrival(guard, intruder, found) == soonest) {
+                return guard;
+            }
+        }
+        return NONE;
+    }
+
+    /** When the GUARD is there; NONE also for one who is not on DUTY then, or if none is FOUND. */
     private int arrival(int guard, int intruder, int found) {
         long reached = found == NONE ? 0 : setOf(guards.standAt(guard, found));
         for (int minute = found; reached != 0 && minute < MINUTES; minute++) {
@@ -790,7 +797,8 @@ public final class NightwatchWall {
 
     /** The BASE: its CELLS, their KINDS, its GATES, and what is in a clear VIEW of what. */
     private static final class Grid {
-        private static final int MOST_APART = 7;
+        /** CELLS are 0 to 7 APART. */
+        private static final int RINGS = 8;
         /** Bit 3 * (down + 1) + (right + 1) for each direction; the middle one leads nowhere. */
         private static final int ALL_DIRECTIONS = 511 - 16;
         private static final int DIRECTIONS = 9;
@@ -805,7 +813,7 @@ public final class NightwatchWall {
         private int openFrom = 1;
         private int openTo;
         /** Kept by CELL and by how far APART, for VIEWS are asked far more often than CELLS change. */
-        private final long[] views = new long[MOST_CELLS * (MOST_APART + 1)];
+        private final long[] views = new long[MOST_CELLS * RINGS];
 
         int wide() {
             return wide;
@@ -949,13 +957,9 @@ public final class NightwatchWall {
 
         /** The CELLS IN LINE with one, with a clear VIEW, and no further APART; itself too. */
         long viewOf(int cell, int apart) {
-            int place = placeOfView(cell, apart);
+            int ring = apart < 0 ? 0 : apart;
+            int place = cell * RINGS + (ring < RINGS ? ring : RINGS - 1);
             return place >= 0 && place < views.length ? views[place] : 0L;
-        }
-
-        private static int placeOfView(int cell, int apart) {
-            int nearest = apart < 0 ? 0 : apart;
-            return cell * (MOST_APART + 1) + (nearest > MOST_APART ? MOST_APART : nearest);
         }
 
         private void drawViews() {
@@ -967,16 +971,16 @@ public final class NightwatchWall {
         private void drawViewsOf(int cell) {
             long seen = setOf(cell);
             int clear = ALL_DIRECTIONS;
-            for (int apart = 0; apart <= MOST_APART; apart++) {
+            for (int apart = 0; apart < RINGS; apart++) {
                 for (int direction = 0; direction < DIRECTIONS; direction++) {
-                    if ((clear & 1 << direction) != 0) {
+                    if (apart > 0 && (clear & 1 << direction) != 0) {
                         int next = cellToward(cell, direction, apart);
+                        boolean isEnd = next == NONE || isOf(walls | hedges, next);
                         seen |= setOf(next);
-                        boolean hides = apart > 0 && isOf(walls | hedges, next);
-                        clear = next == NONE || hides ? clear & ~(1 << direction) : clear;
+                        clear = isEnd ? clear & ~(1 << direction) : clear;
                     }
                 }
-                int place = placeOfView(cell, apart);
+                int place = cell * RINGS + apart;
                 if (place >= 0 && place < views.length) {
                     views[place] = seen;
                 }
