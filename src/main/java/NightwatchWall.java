@@ -542,7 +542,7 @@ public final class NightwatchWall {
         for (int each = first; each <= last; each++) {
             int stand = guards.standAt(each, minute);
             int less = guards.isTired(each, minute) ? 1 : 0;
-            // In no FOG is the RANGE to BRIGHT CELLS the shorter one: what is near is seen in any light.
+            // RANGE is never less in the light: what is near enough for the dark is seen in any case.
             sight |= grid.viewOf(stand, 2 - fog / 2 - less);
             sight |= grid.viewOf(stand, 7 - fog - less) & bright;
         }
@@ -894,8 +894,9 @@ public final class NightwatchWall {
         }
 
         private long allCells() {
+            int many = wide * high;
             // A shift by 64 is none in Java: the greatest BASE needs a set of its own.
-            return cells() >= MOST_CELLS ? -1L : (1L << cells()) - 1;
+            return many >= MOST_CELLS ? -1L : (1L << many) - 1;
         }
 
         /** The CELLS that are no WALLS. */
@@ -1036,7 +1037,7 @@ public final class NightwatchWall {
 
         long brightCells(Grid grid) {
             long bright = 0;
-            for (int lamp = 0; lamp < count(); lamp++) {
+            for (int lamp = 0; lamp < cells.size(); lamp++) {
                 if (lit.at(lamp) == 1) {
                     bright |= grid.viewOf(cells.at(lamp), reaches.at(lamp));
                 }

@@ -280,7 +280,8 @@ public final class LanguageTest {
 
         @Override
         public Void visitLiteral(LiteralTree tree, Void none) {
-            boolean isFloating = tree.getKind() == Tree.Kind.DOUBLE_LITERAL || tree.getKind() == Tree.Kind.FLOAT_LITERAL;
+            boolean isFloating = tree.getKind() == Tree.Kind.DOUBLE_LITERAL
+                || tree.getKind() == Tree.Kind.FLOAT_LITERAL;
             boolean isPlain = !(tree.getValue() instanceof String)
                 || ((String) tree.getValue()).chars().allMatch(sign -> sign >= 1 && sign <= 127);
             holds("rule 4: signs of 1 to 127" + at(tree), isPlain && !isFloating);
