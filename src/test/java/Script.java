@@ -1,5 +1,7 @@
 import java.lang.reflect.InvocationTargetException;
 import java.lang.reflect.Method;
+import java.util.HashMap;
+import java.util.Map;
 
 /**
  * Runs of calls, told a row each: {@code lay(4, 1) -> 0}. An answer "index", "argument" or "state" means that
@@ -8,6 +10,7 @@ import java.lang.reflect.Method;
  * so that the two tellings of the document, and the tests, have to agree.
  */
 final class Script {
+    private static final Map<String, Method> METHODS = new HashMap<>();
     private static int good;
     private static int wrong;
 
@@ -58,9 +61,8 @@ final class Script {
 
     static String answer(Object night, String name, Object... arguments) {
         try {
-            Method method = methodOf(night, name);
-            method.setAccessible(true);
-            return String.valueOf(method.invoke(night, arguments));
+            String key = night.getClass().getName() + "." + name;
+            return String.valueOf(METHODS.computeIfAbsent(key, k -> methodOf(night, name)).invoke(night, arguments));
         } catch (InvocationTargetException thrown) {
             return nameOf(thrown.getCause());
         } catch (IllegalAccessException e) {
@@ -71,6 +73,7 @@ final class Script {
     private static Method methodOf(Object night, String name) {
         for (Method method : night.getClass().getDeclaredMethods()) {
             if (method.getName().equals(name)) {
+                method.setAccessible(true);
                 return method;
             }
         }
