@@ -160,17 +160,29 @@ public final class WholeTest {
             empty = empty * 31;
         }
         Script.run("promise 35, a new object", "digest() -> " + (empty * 31 + 1));
+        for (int calls = 1; calls <= NIGHT.length; calls++) {
+            digestBehind(calls);
+        }
         NightwatchWall night = new NightwatchWall();
         for (String call : NIGHT) {
-            Script.due("promise 35: " + call + " throws", "false",
-                    String.valueOf(List.of("index", "argument", "state").contains(Script.answer(night, call))));
-            Script.due("promise 35, behind " + call, String.valueOf(digestOf(night)), Script.answer(night, "digest()"));
+            Script.answer(night, call);
         }
         PlainNight plain = new PlainNight();
         for (String call : NIGHT) {
             Script.answer(plain, call);
         }
         Script.due("promise 35, the whole", Script.answer(plain, "digest()"), Script.answer(night, "digest()"));
+    }
+
+    /** On an object of its own, as it takes some 350 of the 512 calls for which one answers. */
+    private static void digestBehind(int calls) {
+        NightwatchWall night = new NightwatchWall();
+        for (int k = 0; k < calls; k++) {
+            Script.due("promise 35: " + NIGHT[k] + " throws", "false",
+                    String.valueOf(List.of("index", "argument", "state").contains(Script.answer(night, NIGHT[k]))));
+        }
+        Script.due("promise 35, behind " + NIGHT[calls - 1], String.valueOf(digestOf(night)),
+                Script.answer(night, "digest()"));
     }
 
     /** The checksum as the document tells it, out of what the object answers. */
